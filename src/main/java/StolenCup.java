@@ -1249,7 +1249,7 @@ public final class StolenCup {
             for (int k = i + 1; k < court.thing.size; k++) {
                 movePairs(k);
             }
-            return isOwnerDifferent();
+            return isOnePairLeft();
         }
 
         private static void pair(int[] rows, int one, int other) {
@@ -1274,14 +1274,11 @@ public final class StolenCup {
             pairsBehind = used;
         }
 
-        private boolean isOwnerDifferent() {
-            int size = court.thing.size;
+        /** Two states that differ have two owners: it can't have left one's hands twice but by coming back. */
+        private boolean isOnePairLeft() {
             for (int one = 0; one < STATES; one++) {
-                for (int other = one + 1; pairs[one] != 0 && other < STATES; other++) {
-                    boolean isPair = (pairs[one] >>> other & 1) != 0;
-                    if (isPair && court.ownerIn(one - 1, size) != court.ownerIn(other - 1, size)) {
-                        return true;
-                    }
+                if (pairs[one] != 0) {
+                    return true;
                 }
             }
             return false;

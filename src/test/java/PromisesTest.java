@@ -640,6 +640,11 @@ public final class PromisesTest {
             cup.passing(0, PAWN, k % 2, 0, 40, 0, 0, 0, 1);
         }
         due("eight", cup.may(1, 0) != -1, true);
+        due("eight", cup.hangs(1, 0) != -1, true);
+        cup.mind(0, 0, 0, 1);
+        due("nine with the first", cup.may(1, 0), -1);
+        cup.mind(0, 0, 1, 1);
+        due("eight again", cup.hangs(1, 0) != -1, true);
         cup.passing(0, PAWN, 5, 0, 40, 0, 0, 0, 2);
         due("nine", cup.may(0, 0), -1);
         due("nine", cup.hangs(0, 0), -1);
@@ -874,6 +879,13 @@ public final class PromisesTest {
         cup.passing(2, SALE, 3, 0, 6, 1, 0, 0, 0);
         cup.passing(2, SALE, 0, 0, 7, 1, 0, 0, 0);
         due("it is 0's either way", cup.stopped(5, 0, 0, 1, 2, 12), 10);
+        StolenCup all = withCup();
+        for (int land = 0; land < 6; land++) {
+            tell(all, land, "s(1=1)");
+            all.road(land, 5 - land, 1);
+            all.road(land, (land + 1) % 6, 1);
+        }
+        due("all six", all.stopped(0, 3, 0, 1, 2, 5), 63);
         due("money", cup.stopped(5, 0, 0, 1, 2, 100001), -1);
         due("money", cup.stopped(5, 0, 0, 1, 2, -1), -1);
         due("q", cup.stopped(5, 0, 0, 0, 2, 1), -1);
