@@ -1006,7 +1006,6 @@ public final class StolenCup {
         private Thing thing;
         private int today;
         private int stoppedLands;
-        private boolean isGiven;
         private int monthGiven;
 
         private Court(int[] theHomes, Law[] theLaws, int[][] theSendings, Thing firstThing) {
@@ -1031,7 +1030,8 @@ public final class StolenCup {
                 int mind = thing.rows[i].low;
                 int state = handOver(i, states[i], mind);
                 titles[i] = state == IN_HAND ? thing.rows[i].to : thing.fromWhom(state);
-                byPassing[i] = isGiven ? 1 : 0;
+                // A passing back to the owner makes nobody the owner, whatever a clause would give.
+                byPassing[i] = titles[i] != ownerAhead(i) ? 1 : 0;
                 states[i + 1] = waitBehind(i, state, mind);
                 byTime[i] = monthGiven;
             }
@@ -1054,8 +1054,9 @@ public final class StolenCup {
         private int handOver(int i, int state, int mind) {
             Passing row = thing.rows[i];
             int left = state == IN_HAND ? i : state;
-            isGiven = state == IN_HAND && row.kind <= LEFT || givesTitle(i, left, mind);
-            return isGiven || row.to == thing.fromWhom(left) ? IN_HAND : left;
+            boolean isGiven = state == IN_HAND && row.kind <= LEFT;
+            boolean isBack = row.to == thing.fromWhom(left);
+            return isGiven || isBack || givesTitle(i, left, mind) ? IN_HAND : left;
         }
 
         /** The state that time makes of the one behind passing i, up to the next one or to now. */

@@ -320,7 +320,7 @@ final class PlainCup {
             }
             holder = r.to;
             w.title[i] = owner;
-            w.made[i] = gives ? 1 : 0;
+            w.made[i] = gives && w.ownerAhead[i] != r.to ? 1 : 0;
             w.since[i] = -1;
             w.rulesTime[i] = ruling(f, x, i, 8, owner);
             int end = i + 1 < x.rows.size() ? x.rows.get(i + 1).month : now;

@@ -568,6 +568,26 @@ public final class PromisesTest {
         cup = withCup();
         give(cup, WILL, 1, 0, 3);
         due("by the owner's will", cup.when(0, 0, 0, 1), 1);
+        testWhenBack();
+    }
+
+    private static void testWhenBack() {
+        StolenCup cup = withCup();
+        tell(cup, 0, "s(1=1);g(1=1);w(1=1);f(1=1);z(1=1)");
+        int month = 0;
+        for (int kind = 0; kind < 8; kind++) {
+            int i = give(cup, LENT, 1, 0, month++);
+            give(cup, kind, 0, 0, month++);
+            due("lent", cup.when(0, 0, i, 1), 0);
+            due("back to the owner, who is so already", cup.when(0, 0, i + 1, 1), 0);
+            due("nor by time", cup.when(0, 0, i + 1, 0), -1);
+            due("he is the owner", cup.title(0, 0, i + 1), 0);
+        }
+        int i = give(cup, GIFT, 1, 0, month++);
+        due("from him again", cup.when(0, 0, i, 1), 1);
+        give(cup, STOLEN, 2, 0, month++);
+        i = give(cup, SALE, 3, 0, month++);
+        due("a clause gives it to another", cup.when(0, 0, i, 1), 1);
     }
 
     private static void testTime() {
