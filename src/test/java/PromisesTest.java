@@ -1,17 +1,5 @@
 /** Each promise of the document by hand: ordinary inputs, the edges that it names, wrong inputs. */
-public final class PromisesTest {
-    private static final int SALE = 0;
-    private static final int GIFT = 1;
-    private static final int WILL = 2;
-    private static final int PAWN = 3;
-    private static final int LENT = 4;
-    private static final int STOLEN = 5;
-    private static final int FOUND = 6;
-    private static final int SEIZED = 7;
-
-    private static int wrong;
-    private static String where = "";
-
+public final class PromisesTest extends CupChecks {
     public static void main(String[] args) {
         testNew();
         testNow();
@@ -49,80 +37,7 @@ public final class PromisesTest {
         testCheck();
         testLook();
         testCount();
-        System.out.println(wrong == 0 ? "all promises are kept" : wrong + " answers are not as due");
-        if (wrong != 0) {
-            System.exit(1);
-        }
-    }
-
-    private static void due(String what, int got, int want) {
-        if (got != want) {
-            wrong++;
-            System.out.println(where + ": " + what + " answered " + got + ", due is " + want);
-        }
-    }
-
-    private static void due(String what, boolean got, boolean want) {
-        due(what, got ? 1 : 0, want ? 1 : 0);
-    }
-
-    private static void begin(String name) {
-        where = name;
-    }
-
-    // ---- helpers
-
-    /** Persons 0 to n - 1, at home in lands 0 to 5 and round again, each with a purse of 100. */
-    private static StolenCup withPersons(int n) {
-        StolenCup cup = new StolenCup();
-        for (int k = 0; k < n; k++) {
-            cup.person(k % 6, 100);
-        }
-        return cup;
-    }
-
-    /** Six persons, month 100, thing 0 of worth 50, which is person 0's and lies in land 0. */
-    private static StolenCup withCup() {
-        StolenCup cup = withPersons(6);
-        cup.thing(50, 0, 0);
-        cup.now(100);
-        return cup;
-    }
-
-    private static void feedText(StolenCup cup, String text) {
-        for (int at = 0; at < text.length(); at += 20) {
-            int[] v = new int[5];
-            for (int k = 0; k < 20; k++) {
-                v[k / 4] = v[k / 4] << 8 | (at + k < text.length() ? text.charAt(at + k) : 0);
-            }
-            cup.feed(v[0], v[1], v[2], v[3], v[4]);
-        }
-    }
-
-    private static int tell(StolenCup cup, int land, String text) {
-        feedText(cup, text);
-        return cup.law(land, text.length());
-    }
-
-    private static int give(StolenCup cup, int kind, int to, int land, int month) {
-        return cup.passing(0, kind, to, land, month, 0, 0, 0, 0);
-    }
-
-    private static int sell(StolenCup cup, int to, int land, int month, int price) {
-        return cup.passing(0, SALE, to, land, month, price, 0, 0, 0);
-    }
-
-    /** Whether a condition holds for a sale at a price of 30 that follows a theft. */
-    private static boolean isHolding(String condition) {
-        StolenCup cup = withCup();
-        tell(cup, 0, "s(" + condition + ")");
-        give(cup, STOLEN, 1, 0, 10);
-        sell(cup, 2, 0, 12, 30);
-        return cup.whose(0, 0) == 2;
-    }
-
-    private static void dueHolds(String condition, boolean want) {
-        due(condition, isHolding(condition), want);
+        end("all promises are kept");
     }
 
     // ---- promises
