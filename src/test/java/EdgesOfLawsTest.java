@@ -20,6 +20,7 @@ public final class EdgesOfLawsTest extends CupChecks {
         theSeventhThatCannotStandThere();
         notIsOpenTillItsPieceEnds();
         eachClauseOpensAnew();
+        oneLawInPlaceOfAnother();
         oneOfALetterMustHold();
         withoutOneNoneDoes();
         onePartMustHold();
@@ -208,6 +209,22 @@ public final class EdgesOfLawsTest extends CupChecks {
         due("six in each", told("s((((((1=1))))));g([[[[[1]]]]]=1);y(!!!!!1=1)"), 3);
         due("seven in the second", told("s((((((1=1))))));g(((((((1=1)))))))"), -5024);
         due("many side by side", told("s(" + times(11, "(((((1=1)))))&") + "1=1)"), 1);
+    }
+
+    private static void oneLawInPlaceOfAnother() {
+        begin("8: in place of the one before; a FAULT (the law before stays)");
+        StolenCup cup = withCup();
+        give(cup, STOLEN, 1, 0, 10);
+        sell(cup, 2, 0, 12, 30);
+        String longest = "s(" + times(77, "1+");
+        for (int round = 0; round < 10; round++) {
+            due("160 bytes", tell(cup, 0, longest + "1>9)"), 1);
+            due("it holds", cup.whose(0, 0), 2);
+            due("a fault", tell(cup, 0, longest + "1<9q"), -1159);
+            due("it holds yet", cup.whose(0, 0), 2);
+            due("another", tell(cup, 0, longest + "1<9)"), 1);
+            due("which does not hold", cup.whose(0, 0), 0);
+        }
     }
 
     // ---- what holds
@@ -455,6 +472,9 @@ public final class EdgesOfLawsTest extends CupChecks {
             due("d in " + letter, cup.whose(0, 0) == 2 || cup.back(0, 0) == 7 || cup.asked(0, 0, 1, 0) == 7, true);
             tell(cup, 0, letter + "(!d=0)");
             due("d in " + letter, cup.whose(0, 0) == 2 || cup.back(0, 0) == 7 || cup.asked(0, 0, 1, 0) == 7, false);
+            tell(cup, 0, "y(d>500);" + letter + "(d=0)");
+            due("d in " + letter + ", with a y", cup.whose(0, 0) == 2 || cup.back(0, 0) == 7 || cup.asked(0, 0, 1, 0) == 7,
+                true);
         }
         StolenCup cup = withCup();
         give(cup, STOLEN, 1, 0, 0);

@@ -12,6 +12,7 @@ public final class EdgesOfMoneyTest extends CupChecks {
         notIfTheOwnerPays();
         aPriceOfNothing();
         pursesStay();
+        askedOfTwoInTurn();
         backOfWhat();
         backOfTheLastPassingAlone();
         outOfWhat();
@@ -36,6 +37,7 @@ public final class EdgesOfMoneyTest extends CupChecks {
         allSixAreStopped();
         ofLikeOnesTheLeast();
         thereIsNoSet();
+        eachThingTold();
         lawsAreNotStoppedForGood();
         checkOfWhat();
         checkOfHowMany();
@@ -229,6 +231,24 @@ public final class EdgesOfMoneyTest extends CupChecks {
             for (int p = 0; p < 6; p++) {
                 due("purse", cup.count(30 + p), 100);
             }
+        }
+    }
+
+    private static void askedOfTwoInTurn() {
+        begin("ASKED: by a judge of F, of THING t alone");
+        StolenCup cup = withSales();
+        cup.thing(5, 4, 0);
+        cup.passing(1, GIFT, 5, 0, 10, 0, 0, 0, 0);
+        cup.passing(1, LENT, 2, 0, 11, 0, 0, 0, 0);
+        cup.passing(1, SALE, 3, 0, 12, 8, 0, 0, 0);
+        cup.sends(5, SALE, 0);
+        for (int round = 0; round < 2; round++) {
+            due("thing 0", cup.asked(0, 0, 2, 0), 130);
+            due("another judge", cup.asked(5, 0, 2, 0), -2);
+            due("thing 1", cup.asked(0, 1, 2, 0), 8);
+            due("thing 0, the first sale", cup.asked(0, 0, 1, 1), 70);
+            due("thing 1, lent", cup.asked(0, 1, 1, 1), -2);
+            due("whose", cup.whose(0, 1), 5);
         }
     }
 
@@ -453,8 +473,15 @@ public final class EdgesOfMoneyTest extends CupChecks {
             cup.road(way[k], way[k + 1], 1999);
         }
         due("five that cost less than one", cup.cheapest(0, 0, 0, 1, 2, 1), 9995);
-        cup.road(1, 3, 2000);
-        due("each both ways", cup.cheapest(0, 5, 0, 1, 2, 0), 5);
+        for (int from = 0; from < 6; from++) {
+            for (int to = 0; to < 6; to++) {
+                cup = withRoads();
+                for (int land = 0; land < 6; land++) {
+                    tell(cup, land, land == to ? "s(1=1)" : "a(1=1)");
+                }
+                due("from " + from + " to " + to, cup.cheapest(0, from, 0, 1, 2, 1), 10 * Math.abs(from - to));
+            }
+        }
     }
 
     private static void thereIsNoCheapest() {
@@ -489,6 +516,8 @@ public final class EdgesOfMoneyTest extends CupChecks {
         cup.now(200);
         tell(cup, 0, "y(1=1);s(j=0&c=2&e=0)");
         due("no time goes by behind them", cup.cheapest(0, 0, 0, 1, 2, 0), 0);
+        tell(cup, 0, "f(1=1);z(1=1);s(1=0)");
+        due("what is stolen is not found", cup.cheapest(0, 0, 0, 1, 2, 0), -2);
     }
 
     private static void nothingStaysOfIt() {
@@ -615,6 +644,22 @@ public final class EdgesOfMoneyTest extends CupChecks {
         give(cup, STOLEN, 1, 2, 10);
         sell(cup, 3, 2, 11, 5);
         due("the thing itself was sold in 2", cup.stopped(0, 0, 0, 1, 2, 20), -2);
+    }
+
+    private static void eachThingTold() {
+        begin("STOPPED: each THING told is NOW whose it is with them");
+        for (int sold = 1; sold < 4; sold++) {
+            StolenCup cup = withRoads();
+            for (int t = 1; t < 4; t++) {
+                cup.thing(9, t, 0);
+            }
+            due("four things", cup.stopped(0, 0, 0, 1, 2, 20), 4);
+            cup.passing(sold, STOLEN, 0, 2, 10, 0, 0, 0, 0);
+            cup.passing(sold, SALE, 5, 2, 11, 5, 0, 0, 0);
+            due("thing " + sold + " was sold in 2", cup.stopped(0, 0, 0, 1, 2, 20), -2);
+            cup.passing(sold, GIFT, sold, 0, 12, 0, 0, 0, 0);
+            due("and came back to its first owner", cup.stopped(0, 0, 0, 1, 2, 20), 4);
+        }
     }
 
     private static void lawsAreNotStoppedForGood() {

@@ -37,6 +37,12 @@ public final class EdgesOfTitleTest extends CupChecks {
         hangsOnTheFirstAndTheLast();
         hangsByOthers();
         hangsNotOnSureOnes();
+        mayFromTheOwner();
+        mindsAndTime();
+        mindsOfTimeThatStandApart();
+        hangsIfOneOfTheOthersMindsLetsIt();
+        hangsNotIfAllOfTheOthersMindsLevelIt();
+        hangsOfTwoThingsInTurn();
         end("the bounds of title are kept");
     }
 
@@ -585,5 +591,101 @@ public final class EdgesOfTitleTest extends CupChecks {
         }
         due("all are sure", cup.hangs(0, 0), 0);
         due("may", cup.may(0, 0), 1 << 4);
+    }
+
+    private static void mayFromTheOwner() {
+        begin("MAY BE: from the OWNER himself by SALE, GIFT, LEFT: TO whom is the OWNER, whatever he knew");
+        for (int kind = SALE; kind <= WILL; kind++) {
+            StolenCup cup = withCup();
+            cup.passing(0, kind, 1, 0, 0, 0, 0, 0, 2);
+            due("kind " + kind, cup.may(0, 0), 1 << 1);
+            due("hangs", cup.hangs(0, 0), 0);
+        }
+        StolenCup cup = withCup();
+        for (int k = 0; k < 19; k++) {
+            give(cup, GIFT, (k + 1) % 6, 0, 0);
+        }
+        cup.passing(0, FOUND, 3, 0, 0, 0, 0, 0, 1);
+        due("it left the owner's hands by the 20th", cup.may(0, 0), 1 << 1);
+        tell(cup, 0, "f(k=0)");
+        due("or the 20th gave it", cup.may(0, 0), 1 << 1 | 1 << 3);
+        due("on which it hangs", cup.hangs(0, 0), 1 << 19);
+    }
+
+    private static void mindsAndTime() {
+        begin("MAY BE, IT HANGS: k of a y is the MIND by which he took it, too");
+        for (int mind = 0; mind <= 2; mind++) {
+            for (int at = 0; at < 20; at++) {
+                StolenCup cup = withCup();
+                for (int k = 0; k < 20; k++) {
+                    int low = k == at ? 0 : (mind + 1) % 3;
+                    cup.passing(0, STOLEN, 1 + k % 5, 0, k, 0, 0, low, k == at ? 2 : low);
+                }
+                tell(cup, 0, "y(k=" + mind + "&c=" + (at + 1) + ")");
+                due("by time behind " + at + " with " + mind, cup.may(0, 0), 1 << 1 + at % 5 | 1);
+                due("hangs", cup.hangs(0, 0), 1 << at);
+            }
+        }
+    }
+
+    private static void mindsOfTimeThatStandApart() {
+        begin("TIME over all MINDS: the OWNER, e, j, c as they stand with each");
+        StolenCup cup = withCup();
+        tell(cup, 0, "f(k=0);y(c=3)");
+        cup.passing(0, FOUND, 1, 0, 10, 0, 0, 0, 1);
+        give(cup, STOLEN, 2, 0, 20);
+        give(cup, STOLEN, 3, 0, 30);
+        due("c is 2 or 3 at last", cup.may(0, 0), 1 << 1 | 1 << 3);
+        due("it hangs on the finder", cup.hangs(0, 0), 1);
+        cup = withCup();
+        tell(cup, 0, "f(k=0);y(k=0&c=1)");
+        cup.passing(0, FOUND, 1, 0, 10, 0, 0, 0, 1);
+        cup.passing(0, STOLEN, 2, 0, 20, 0, 0, 0, 2);
+        due("time only if the finder is the owner and the thief knew nothing", cup.may(0, 0), 7);
+        due("it hangs on both", cup.hangs(0, 0), 3);
+        tell(cup, 0, "f(k=0);y(k=2&c=2)");
+        due("time only if 0 is the owner yet and the thief knew", cup.may(0, 0), 7);
+        due("it hangs on both", cup.hangs(0, 0), 3);
+    }
+
+    private static void hangsIfOneOfTheOthersMindsLetsIt() {
+        begin("IT HANGS: there are MINDS of the others (one is enough) with which its MIND alone changes the OWNER");
+        StolenCup cup = withCup();
+        tell(cup, 0, "z(k=0);s(k=0);g(o=1)");
+        cup.passing(0, SEIZED, 1, 0, 0, 0, 0, 0, 1);
+        give(cup, STOLEN, 2, 0, 0);
+        cup.passing(0, SALE, 3, 0, 0, 0, 0, 0, 1);
+        give(cup, GIFT, 4, 0, 0);
+        due("the gift gives it but if 0 is the owner yet", cup.may(0, 0), 1 << 4 | 1);
+        due("the sale matters if the first knew", cup.hangs(0, 0), 1 << 2 | 1);
+    }
+
+    private static void hangsNotIfAllOfTheOthersMindsLevelIt() {
+        begin("IT HANGS: the OWNER NOW, not one between");
+        StolenCup cup = withCup();
+        tell(cup, 0, "z(k=0);f(k=0&c>1);g(o=0)");
+        cup.passing(0, SEIZED, 1, 0, 0, 0, 0, 0, 1);
+        cup.passing(0, FOUND, 2, 0, 0, 0, 0, 0, 1);
+        due("so far on both", cup.hangs(0, 0), 3);
+        give(cup, GIFT, 3, 0, 0);
+        due("the gift gives it but if 1 is the owner", cup.may(0, 0), 1 << 3 | 1 << 1);
+        due("so it hangs on the second no more", cup.hangs(0, 0), 1);
+    }
+
+    private static void hangsOfTwoThingsInTurn() {
+        begin("17: by a judge of F, THING t alone");
+        StolenCup cup = withCup();
+        cup.thing(1, 0, 0);
+        tell(cup, 0, "s(k=0)");
+        cup.passing(0, STOLEN, 1, 0, 0, 0, 0, 0, 0);
+        cup.passing(0, SALE, 2, 0, 0, 0, 0, 0, 1);
+        cup.passing(1, GIFT, 1, 0, 0, 0, 0, 0, 0);
+        cup.passing(1, SALE, 2, 0, 0, 0, 0, 0, 1);
+        for (int round = 0; round < 2; round++) {
+            due("a sale of the thief's", cup.hangs(0, 0), 2);
+            due("a sale of the owner's", cup.hangs(0, 1), 0);
+            due("may", cup.may(0, 0), 5);
+            due("may", cup.may(0, 1), 4);
+        }
     }
 }
